@@ -168,7 +168,7 @@ public final class TestChoice {
             return BAD;
         }
         choice.choose();
-        return what == 0 ? danger.edges[e] : choice.testsOver(e);
+        return what == 0 ? danger.edges.holds(e) : choice.testsOver(e);
     }
 
     public int covers(int t, int e) {
@@ -176,7 +176,7 @@ public final class TestChoice {
             return BAD;
         }
         runTest(old, t);
-        return run.gone[e];
+        return run.gone.holds(e);
     }
 
     public int order(int i, int what) {
@@ -397,7 +397,7 @@ public final class TestChoice {
 
     private int edgesInDanger() {
         danger.compare();
-        return danger.edgesFound();
+        return danger.edges.size();
     }
 
     private boolean saysTheSame(int c, int decisions) {
@@ -493,7 +493,6 @@ public final class TestChoice {
         void clear() {
             methods = 0;
             classes = 0;
-            Arrays.fill(nodes, 0);
             Arrays.fill(leads, NONE);
             Arrays.fill(owned, NONE);
         }
@@ -726,11 +725,59 @@ public final class TestChoice {
         }
     }
 
+    /** A set of edges, by a bit for each. */
+    private static final class EdgeSet {
+        private static final int ROWS = 4, ROW_BITS = 64;
+        private final long[] rows = new long[ROWS];
+
+        void clear() {
+            Arrays.fill(rows, 0L);
+        }
+
+        void becomeAs(EdgeSet other) {
+            System.arraycopy(other.rows, 0, rows, 0, ROWS);
+        }
+
+        void put(int e) {
+            if (e >= 0 && e < EDGES) {
+                rows[e / ROW_BITS] |= 1L << (e % ROW_BITS);
+            }
+        }
+
+        void putAll(EdgeSet other) {
+            for (int r = 0; r < ROWS; r++) {
+                rows[r] |= other.rows[r];
+            }
+        }
+
+        void takeOut(EdgeSet other) {
+            for (int r = 0; r < ROWS; r++) {
+                rows[r] &= ~other.rows[r];
+            }
+        }
+
+        int holds(int e) {
+            return e >= 0 && e < EDGES ? (int) (rows[e / ROW_BITS] >>> (e % ROW_BITS) & 1L) : 0;
+        }
+
+        int size() {
+            return sizeWithin(this);
+        }
+
+        int sizeWithin(EdgeSet other) {
+            int both = 0;
+            for (int r = 0; r < ROWS; r++) {
+                both += Long.bitCount(rows[r] & other.rows[r]);
+            }
+            return both;
+        }
+    }
+
     /** One run by a program: what it says, how far it goes, over which edges. */
     private static final class Run {
         int words;
         int steps;
-        final int[] gone = new int[EDGES];
+        final EdgeSet gone = new EdgeSet();
         private Program program;
         private int byClass;
         private int decisions;
@@ -745,7 +792,7 @@ public final class TestChoice {
             steps = 0;
             asked = 0;
             cutOff = false;
-            Arrays.fill(gone, 0);
+            gone.clear();
             if (program.methods > 0) {
                 enter(0, 0);
             }
@@ -753,7 +800,7 @@ public final class TestChoice {
 
         private void enter(int m, int calls) {
             words = 31 * words + m + 101;
-            gone[ENTERING + m] = 1;
+            gone.put(ENTERING + m);
             int i = program.nodes[m] > 0 ? 0 : END;
             for (int at = 0; at <= MOST_STEPS && i != END; at++) {
                 i = visit(m, i, calls);
@@ -779,7 +826,7 @@ public final class TestChoice {
         }
 
         private void enterMeant(int name, int calls) {
-            gone[edgeOfCall(byClass, name)] = 1;
+            gone.put(edgeOfCall(byClass, name));
             int m = program.meantBy(byClass, name);
             if (m != NONE && calls < MOST_CALLS) {
                 enter(m, calls + 1);
@@ -791,7 +838,7 @@ public final class TestChoice {
                 return END;
             }
             int e = edgeOfNext(m, i, ways == 1 ? 0 : decide());
-            gone[e] = 1;
+            gone.put(e);
             return program.leads[e];
         }
 
@@ -805,7 +852,7 @@ public final class TestChoice {
     /** The edges behind which the old and the new program are not alike. */
     private static final class Danger {
         private static final int MOST_PAIRS = MOST_NODES * MOST_NODES;
-        final int[] edges = new int[EDGES];
+        final EdgeSet edges = new EdgeSet();
         private final Program old;
         private final Program now;
         private final int[] paired = new int[MOST_PAIRS];
@@ -818,25 +865,17 @@ public final class TestChoice {
         }
 
         void compare() {
-            Arrays.fill(edges, 0);
+            edges.clear();
             for (int m = 0; m < old.methods; m++) {
                 compareMethod(m);
             }
             for (int c = 0; c < old.classes; c++) {
                 for (int name = 0; name < NAMES; name++) {
                     if (old.meantBy(c, name) != now.meantBy(c, name)) {
-                        edges[edgeOfCall(c, name)] = 1;
+                        edges.put(edgeOfCall(c, name));
                     }
                 }
             }
-        }
-
-        int edgesFound() {
-            int all = 0;
-            for (int e = 0; e < EDGES; e++) {
-                all += edges[e];
-            }
-            return all;
         }
 
         private void compareMethod(int m) {
@@ -846,7 +885,7 @@ public final class TestChoice {
                 return;
             }
             if (!pairUp(m, 0, 0)) {
-                edges[ENTERING + m] = 1;
+                edges.put(ENTERING + m);
             }
             for (int p = 0; p < found && p < MOST_PAIRS; p++) {
                 compareNexts(m, pairs[p] / MOST_NODES, pairs[p] % MOST_NODES);
@@ -860,7 +899,7 @@ public final class TestChoice {
                 boolean bothEnd = was == END && is == END;
                 boolean oneEnds = was == END || is == END;
                 if (!bothEnd && (oneEnds || !pairUp(m, was, is))) {
-                    edges[edgeOfNext(m, i, k)] = 1;
+                    edges.put(edgeOfNext(m, i, k));
                 }
             }
         }
@@ -892,8 +931,9 @@ public final class TestChoice {
         final int[] ranked = new int[MOST_TESTS];
         final int[] gains = new int[MOST_TESTS];
         private final int[] rankOf = new int[MOST_TESTS];
-        private final int[] covered = new int[MOST_TESTS * EDGES];
-        private final int[] met = new int[EDGES];
+        private final EdgeSet[] covered = new EdgeSet[MOST_TESTS];
+        private final EdgeSet left = new EdgeSet();
+        private final EdgeSet any = new EdgeSet();
         private final Program old;
         private final Tests tests;
         private final Danger danger;
@@ -904,13 +944,16 @@ public final class TestChoice {
             this.tests = tests;
             this.danger = danger;
             this.run = run;
+            for (int t = 0; t < MOST_TESTS; t++) {
+                covered[t] = new EdgeSet();
+            }
         }
 
         void choose() {
             danger.compare();
             for (int t = 0; t < tests.size; t++) {
                 run.begin(old, tests.classes[t], tests.decisions[t]);
-                System.arraycopy(run.gone, 0, covered, EDGES * t, EDGES);
+                covered[t].becomeAs(run.gone);
             }
             rankAll();
         }
@@ -922,9 +965,9 @@ public final class TestChoice {
                 case 6:
                     return rankOf[t];
                 case 7:
-                    return edgesCovered(t);
+                    return covered[t].size();
                 default:
-                    return dangersCovered(t);
+                    return covered[t].sizeWithin(danger.edges);
             }
         }
 
@@ -939,49 +982,23 @@ public final class TestChoice {
         int testsOver(int e) {
             int over = 0;
             for (int t = 0; t < tests.size; t++) {
-                over += covered[EDGES * t + e];
+                over += covered[t].holds(e);
             }
             return over;
         }
 
         int edgesOver() {
-            int any = 0;
-            for (int e = 0; e < EDGES; e++) {
-                if (testsOver(e) > 0) {
-                    any++;
-                }
+            any.clear();
+            for (int t = 0; t < tests.size; t++) {
+                any.putAll(covered[t]);
             }
-            return any;
-        }
-
-        private int edgesCovered(int t) {
-            int all = 0;
-            for (int e = 0; e < EDGES; e++) {
-                all += covered[EDGES * t + e];
-            }
-            return all;
-        }
-
-        private int dangersCovered(int t) {
-            int all = 0;
-            for (int e = 0; e < EDGES; e++) {
-                all += covered[EDGES * t + e] * danger.edges[e];
-            }
-            return all;
-        }
-
-        private int dangersNotMet(int t) {
-            int fresh = 0;
-            for (int e = 0; e < EDGES; e++) {
-                fresh += covered[EDGES * t + e] * danger.edges[e] * (1 - met[e]);
-            }
-            return fresh;
+            return any.size();
         }
 
         private void rankAll() {
             chosen = 0;
             Arrays.fill(rankOf, NONE);
-            Arrays.fill(met, 0);
+            left.becomeAs(danger.edges);
             for (int i = 0; i < tests.size; i++) {
                 int t = nextOne();
                 if (t == NONE) {
@@ -995,8 +1012,8 @@ public final class TestChoice {
             int best = NONE;
             int most = 0;
             for (int t = 0; t < tests.size; t++) {
-                if (rankOf[t] == NONE && dangersCovered(t) > 0) {
-                    int fresh = dangersNotMet(t);
+                if (rankOf[t] == NONE && covered[t].sizeWithin(danger.edges) > 0) {
+                    int fresh = covered[t].sizeWithin(left);
                     // By products: fractions are compared without being rounded.
                     if (best == NONE || fresh * tests.costs[best] > most * tests.costs[t]) {
                         best = t;
@@ -1009,14 +1026,10 @@ public final class TestChoice {
 
         private void rank(int t) {
             ranked[chosen] = t;
-            gains[chosen] = dangersNotMet(t);
+            gains[chosen] = covered[t].sizeWithin(left);
             rankOf[t] = chosen;
             chosen++;
-            for (int e = 0; e < EDGES; e++) {
-                if (covered[EDGES * t + e] == 1) {
-                    met[e] = 1;
-                }
-            }
+            left.takeOut(covered[t]);
         }
     }
 
@@ -1173,7 +1186,6 @@ public final class TestChoice {
 
         void readAll() {
             fault = 0;
-            place = 0;
             lines = 0;
             latestClass = NONE;
             latestMethod = NONE;

@@ -21,6 +21,10 @@ public final class AskTest {
         for (int what = 0; what < behind.length; what++) {
             Due.due("6: rule(" + what + ") behind say", x.rule(what), behind[what]);
         }
+        Due.due("18: has", x.has(0, 0, -4), 1);
+        Due.due("6: costs, asked at once", x.rule(6), 4);
+        x.leave();
+        Due.due("6: costs, asked at once", x.rule(6), 0);
         Due.due("6: rule(-1)", x.rule(-1), -1);
         Due.due("6: rule(8)", x.rule(8), -1);
         Due.due("6: rule(max)", x.rule(Integer.MAX_VALUE), -1);
@@ -77,6 +81,9 @@ public final class AskTest {
         for (int[] w : wrong) {
             Due.due("8: meant(" + w[0] + ", " + w[1] + ", " + w[2] + ")", x.meant(w[0], w[1], w[2]), -1);
         }
+        TestChoice deep = Due.told("method;method;class 9;class 0;class 1;class 2;has 0 3 1;");
+        Due.due("8: by the first of four above one another", deep.meant(3, 3, 0), 1);
+        Due.due("8: not another name", deep.meant(3, 2, 0), -4);
         TestChoice y = Due.told("method;class 9;");
         Due.due("8: no such class", y.meant(1, 0, 0), -1);
         Due.due("8: none", y.meant(0, 0, 0), -4);

@@ -11,6 +11,7 @@ public final class DangerTest {
         behindWhatIsAlike();
         oneLeadsToTheEnd();
         loops();
+        manyPairs();
         whatIsNotReached();
         callsThatLeadElsewhere();
         covers();
@@ -134,6 +135,20 @@ public final class DangerTest {
         inDanger(x, 0);
         x.lead(0, 2, 0, 2);
         inDanger(x);
+    }
+
+    private static void manyPairs() {
+        // Each NODE leads back, too: a PAIR that is met again is not followed again.
+        TestChoice x = Due.told("method;say 0 0 1;say 1 0 2;say 2 0 3;say 3 0 4;say 4 0 5;say 5 0 6;say 6 0 7;say 7;");
+        x.say(0, 7, 0, 8);
+        inDanger(x, 13);
+        // All NODES are ALIKE: any two of them come to be one of the PAIRS.
+        TestChoice y = Due.told("method;say 0 1 0;say 0 2 0;say 0 3 0;say 0 4 0;say 0 5 0;say 0 6 0;say 0 7 0;say 0 0 0;");
+        y.lead(0, 7, 0, 2);
+        y.lead(0, 3, 1, 5);
+        inDanger(y);
+        y.lead(0, 6, 1, 9);
+        inDanger(y, 1, 3, 5, 7, 9, 11, 13, 15);
     }
 
     private static void whatIsNotReached() {

@@ -154,6 +154,13 @@ public final class TextTest {
         fails("method  ", 2, 8);
         fails("method say", 2, 7);
         fails("method 1;", 2, 7);
+        for (String word : new String[] {"method", "say", "call", "class", "has", "test"}) {
+            for (int i = 0; i < word.length(); i++) {
+                fails("method;" + word.substring(0, i) + "z" + word.substring(i + 1) + " 9;", 2, 7);
+            }
+            fails("method;" + word + "a 9;", 2, 7);
+            fails("method;" + word.substring(1) + ";", 2, 7);
+        }
         fails("method;say;", 2, 10);
         fails("method;say", 2, 10);
         fails("method;say say;", 2, 11);
