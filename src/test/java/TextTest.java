@@ -115,144 +115,134 @@ public final class TextTest {
         Due.due("4: 001", x.test(0, 2), 1);
     }
 
-    private static void fails(String text, int fault, int place) {
-        TestChoice x = new TestChoice();
-        Due.feedAll(x, text);
-        Due.due("4: text() of '" + text + "'", x.text(), -10 - place);
-        Due.due("5: fault() of '" + text + "'", x.fault(), fault);
-        Due.due("5: fault() again", x.fault(), fault);
-        Due.due("4: the tape is empty by a fault, too", x.count(2), 0);
-        Due.due("4: nothing is told by '" + text + "'", x.rule(0) + x.rule(1) + x.rule(2) + x.rule(3), 0);
-    }
-
     private static void noToken() {
-        fails("A", 1, 0);
-        fails(" -", 1, 1);
-        fails("method\n;", 1, 6);
-        fails("method;say 1234;", 1, 11);
-        fails("method;say 0001;", 1, 11);
-        fails("1234", 1, 0);
-        fails("method;{", 1, 7);
-        fails("method;`", 1, 7);
-        fails("method;/", 1, 7);
-        fails("method;:", 1, 7);
-        fails("method;say 1 0 0 1234;", 1, 17);
-        fails("method 1234;", 1, 7);
-        fails("say1111", 5, 0);
-        fails("\0", 1, 0);
-        fails("method;\t", 1, 7);
+        Due.fails("A", 1, 0);
+        Due.fails(" -", 1, 1);
+        Due.fails("method\n;", 1, 6);
+        Due.fails("method;say 1234;", 1, 11);
+        Due.fails("method;say 0001;", 1, 11);
+        Due.fails("1234", 1, 0);
+        Due.fails("method;{", 1, 7);
+        Due.fails("method;`", 1, 7);
+        Due.fails("method;/", 1, 7);
+        Due.fails("method;:", 1, 7);
+        Due.fails("method;say 1 0 0 1234;", 1, 17);
+        Due.fails("method 1234;", 1, 7);
+        Due.fails("say1111", 5, 0);
+        Due.fails("\0", 1, 0);
+        Due.fails("method;\t", 1, 7);
     }
 
     private static void wrongToken() {
-        fails("metho;", 2, 0);
-        fails("methods;", 2, 0);
-        fails("methodsay;", 2, 0);
-        fails(";", 2, 0);
-        fails("  12", 2, 2);
-        fails("method;;", 2, 7);
-        fails("method", 2, 6);
-        fails("method  ", 2, 8);
-        fails("method say", 2, 7);
-        fails("method 1;", 2, 7);
+        Due.fails("metho;", 2, 0);
+        Due.fails("methods;", 2, 0);
+        Due.fails("methodsay;", 2, 0);
+        Due.fails(";", 2, 0);
+        Due.fails("  12", 2, 2);
+        Due.fails("method;;", 2, 7);
+        Due.fails("method", 2, 6);
+        Due.fails("method  ", 2, 8);
+        Due.fails("method say", 2, 7);
+        Due.fails("method 1;", 2, 7);
         for (String word : new String[] {"method", "say", "call", "class", "has", "test"}) {
             for (int i = 0; i < word.length(); i++) {
-                fails("method;" + word.substring(0, i) + "z" + word.substring(i + 1) + " 9;", 2, 7);
+                Due.fails("method;" + word.substring(0, i) + "z" + word.substring(i + 1) + " 9;", 2, 7);
             }
-            fails("method;" + word + "a 9;", 2, 7);
-            fails("method;" + word.substring(1) + ";", 2, 7);
+            Due.fails("method;" + word + "a 9;", 2, 7);
+            Due.fails("method;" + word.substring(1) + ";", 2, 7);
         }
-        fails("method;say;", 2, 10);
-        fails("method;say", 2, 10);
-        fails("method;say say;", 2, 11);
-        fails("method;say 1 0 0 0;", 2, 17);
-        fails("method;say 1 0 0 8;", 2, 17);
-        fails("method;call 1 0 0 0;", 2, 18);
-        fails("method;say 1 0 x;", 2, 15);
-        fails("class;", 2, 5);
-        fails("class 9 9;", 2, 8);
-        fails("has 0 0;", 2, 7);
-        fails("has 0 0 0 0;", 2, 10);
-        fails("test 0 0;", 2, 8);
-        fails("test 0 0 1 1;", 2, 11);
-        fails("test 0 0 1", 2, 10);
-        fails("test;", 2, 4);
+        Due.fails("method;say;", 2, 10);
+        Due.fails("method;say", 2, 10);
+        Due.fails("method;say say;", 2, 11);
+        Due.fails("method;say 1 0 0 0;", 2, 17);
+        Due.fails("method;say 1 0 0 8;", 2, 17);
+        Due.fails("method;call 1 0 0 0;", 2, 18);
+        Due.fails("method;say 1 0 x;", 2, 15);
+        Due.fails("class;", 2, 5);
+        Due.fails("class 9 9;", 2, 8);
+        Due.fails("has 0 0;", 2, 7);
+        Due.fails("has 0 0 0 0;", 2, 10);
+        Due.fails("test 0 0;", 2, 8);
+        Due.fails("test 0 0 1 1;", 2, 11);
+        Due.fails("test 0 0 1", 2, 10);
+        Due.fails("test;", 2, 4);
     }
 
     private static void outOfBounds() {
-        fails("method;say 10;", 3, 11);
-        fails("method;say 999;", 3, 11);
-        fails("method;say 1 8;", 3, 13);
-        fails("method;say 1 10;", 3, 13);
-        fails("method;say 1 9 8;", 3, 15);
-        fails("method;call 4;", 3, 12);
-        fails("method;call 0 8;", 3, 14);
-        fails("method;call 0 0 10;", 3, 16);
-        fails("class 0;", 3, 6);
-        fails("class 8;", 3, 6);
-        fails("class 10;", 3, 6);
-        fails("class 9;class 1;", 3, 14);
-        fails("class 9;class 9;class 9;class 3;", 3, 30);
-        fails("class 9;class 9;class 9;class 4;", 3, 30);
-        fails("has 4 0 0;", 3, 4);
-        fails("has 9 0 0;", 3, 4);
-        fails("has 0 4 0;", 3, 6);
-        fails("has 0 0 6;", 3, 8);
-        fails("has 0 0 9;", 3, 8);
-        fails("test 4 0 1;", 3, 5);
-        fails("test 9 0 1;", 3, 5);
-        fails("test 0 256 1;", 3, 7);
-        fails("test 0 0 0;", 3, 9);
-        fails("test 0 0 10;", 3, 9);
+        Due.fails("method;say 10;", 3, 11);
+        Due.fails("method;say 999;", 3, 11);
+        Due.fails("method;say 1 8;", 3, 13);
+        Due.fails("method;say 1 10;", 3, 13);
+        Due.fails("method;say 1 9 8;", 3, 15);
+        Due.fails("method;call 4;", 3, 12);
+        Due.fails("method;call 0 8;", 3, 14);
+        Due.fails("method;call 0 0 10;", 3, 16);
+        Due.fails("class 0;", 3, 6);
+        Due.fails("class 8;", 3, 6);
+        Due.fails("class 10;", 3, 6);
+        Due.fails("class 9;class 1;", 3, 14);
+        Due.fails("class 9;class 9;class 9;class 3;", 3, 30);
+        Due.fails("class 9;class 9;class 9;class 4;", 3, 30);
+        Due.fails("has 4 0 0;", 3, 4);
+        Due.fails("has 9 0 0;", 3, 4);
+        Due.fails("has 0 4 0;", 3, 6);
+        Due.fails("has 0 0 6;", 3, 8);
+        Due.fails("has 0 0 9;", 3, 8);
+        Due.fails("test 4 0 1;", 3, 5);
+        Due.fails("test 9 0 1;", 3, 5);
+        Due.fails("test 0 256 1;", 3, 7);
+        Due.fails("test 0 0 0;", 3, 9);
+        Due.fails("test 0 0 10;", 3, 9);
     }
 
     private static void tooMany() {
         String six = "method;method;method;method;method;method;";
         TestChoice x = Due.told(six);
         Due.due("4: six methods", x.rule(0), 6);
-        fails(six + "method;", 5, 42);
-        fails(six + "  method", 5, 44);
-        fails("say 1;", 5, 0);
-        fails(" call 1;", 5, 1);
-        fails("class 9;say", 5, 8);
+        Due.fails(six + "method;", 5, 42);
+        Due.fails(six + "  method", 5, 44);
+        Due.fails("say 1;", 5, 0);
+        Due.fails(" call 1;", 5, 1);
+        Due.fails("class 9;say", 5, 8);
         String eight = "method;say 1;say 1;say 1;say 1;call 1;call 1;call 1;call 1;";
         Due.due("4: eight nodes", Due.told(eight).rule(1), 8);
         Due.due("4: eight nodes, and one more method", Due.told(eight + "method;say 1;").rule(1), 9);
-        fails(eight + "say 1;", 5, eight.length());
-        fails(eight + "call", 5, eight.length());
+        Due.fails(eight + "say 1;", 5, eight.length());
+        Due.fails(eight + "call", 5, eight.length());
         String four = "class 9;class 9;class 9;class 9;";
         Due.due("4: four classes", Due.told(four).rule(2), 4);
-        fails(four + "class 9;", 5, 32);
-        fails(four + "class 8;", 5, 32);
+        Due.fails(four + "class 9;", 5, 32);
+        Due.fails(four + "class 8;", 5, 32);
         String tests = "test 0 1 1;test 0 2 2;test 0 3 3;test 0 4 4;test 0 5 5;test 0 6 6;test 0 7 7;test 0 8 8;";
         Due.due("4: eight tests", Due.told("class 9;" + tests).rule(3), 8);
-        fails("class 9;" + tests + "test 9 9 0;", 5, 8 + tests.length());
+        Due.fails("class 9;" + tests + "test 9 9 0;", 5, 8 + tests.length());
     }
 
     private static void notThere() {
-        fails("method;say 1 1;", 6, 15);
-        fails("method;say 1 1;  ", 6, 17);
-        fails("method;say 1 0 1;", 6, 17);
-        fails("method;say 1 1;method;say 1;say 1;", 6, 34);
-        fails("method;say 1;say 1;method;call 1 9 1;", 6, 37);
-        fails("has 0 0 0;method;", 6, 17);
-        fails("class 9;has 0 0 0;", 6, 18);
-        fails("class 9;has 0 0 1;method;", 6, 25);
-        fails("class 9;has 0 0 1;has 0 0 0;method;", 6, 35);
-        fails("method;class 9;has 1 0 0;", 6, 25);
-        fails("class 9;test 1 0 1;", 6, 19);
-        fails("test 0 0 1;", 6, 11);
+        Due.fails("method;say 1 1;", 6, 15);
+        Due.fails("method;say 1 1;  ", 6, 17);
+        Due.fails("method;say 1 0 1;", 6, 17);
+        Due.fails("method;say 1 1;method;say 1;say 1;", 6, 34);
+        Due.fails("method;say 1;say 1;method;call 1 9 1;", 6, 37);
+        Due.fails("has 0 0 0;method;", 6, 17);
+        Due.fails("class 9;has 0 0 0;", 6, 18);
+        Due.fails("class 9;has 0 0 1;method;", 6, 25);
+        Due.fails("class 9;has 0 0 1;has 0 0 0;method;", 6, 35);
+        Due.fails("method;class 9;has 1 0 0;", 6, 25);
+        Due.fails("class 9;test 1 0 1;", 6, 19);
+        Due.fails("test 0 0 1;", 6, 11);
         Due.told("method;say 1 1;say 2 0;");
         Due.told("has 0 0 0;test 0 0 1;class 9;method;");
     }
 
     private static void firstFaultIsMet() {
-        fails("method;say 1 7;say 10;", 3, 19);
-        fails("method;say 1 7;A", 1, 15);
-        fails("method;say 10 A;", 3, 11);
-        fails("method;say A 10;", 1, 11);
-        fails("method;say 1 7", 2, 14);
-        fails("say A;", 5, 0);
-        fails("class 5 A", 3, 6);
+        Due.fails("method;say 1 7;say 10;", 3, 19);
+        Due.fails("method;say 1 7;A", 1, 15);
+        Due.fails("method;say 10 A;", 3, 11);
+        Due.fails("method;say A 10;", 1, 11);
+        Due.fails("method;say 1 7", 2, 14);
+        Due.fails("say A;", 5, 0);
+        Due.fails("class 5 A", 3, 6);
     }
 
     private static void whatWasToldStays() {
