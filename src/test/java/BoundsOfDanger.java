@@ -88,6 +88,12 @@ final class BoundsOfDanger {
     private static void noNodes() {
         Doc.terms(PAIRS);
         inDanger(Due.told("method;method;class 9;"));
+        TestChoice again = Due.told("method;say 1 0 0;class 9;");
+        again.say(0, 0, 0, 2);
+        inDanger(again, 100);
+        Due.tells(again, "method;class 9;", 2);
+        inDanger(again);
+        Due.due("edge(100, 0)", again.edge(100, 0), 0);
         TestChoice x = Due.told("method;method;say 1;method;class 9;");
         x.say(1, 0, 0, 2);
         inDanger(x, 101);
